@@ -83,13 +83,13 @@ public final class PrinterRows {
         int channel = channelOfCode(code);
         int way = isChannel(channel) ? wayTo(channel) : linesOfCode(code);
         if (isSecondKind(code)) {
-            if (!canPrintHere() || !canMove(way)) {
+            if (!endsOnAPage(0) || !endsAtMostBehindThem(way)) {
                 return NO_ROOM;
             }
             printRecord();
             moveBy(way);
         } else {
-            if (!canPrintAfter(way)) {
+            if (!endsOnAPage(way)) {
                 return NO_ROOM;
             }
             moveBy(way);
@@ -106,7 +106,7 @@ public final class PrinterRows {
             return 0;
         }
         int way = wayTo(c);
-        if (!canMove(way)) {
+        if (!endsOnAPage(way)) {
             return NO_ROOM;
         }
         moveBy(way);
@@ -280,16 +280,13 @@ public final class PrinterRows {
         return standPage() + (standLine + way) / lines;
     }
 
-    private boolean canPrintHere() {
-        return standPage() < MOST_PAGES;
-    }
-
-    private boolean canPrintAfter(int way) {
+    /** Whether the way ends on one of the 40 pages: there a record can be printed, and a skip may end only there. */
+    private boolean endsOnAPage(int way) {
         return pageAfter(way) < MOST_PAGES;
     }
 
-    /** Moving begins only the pages that it leaves: it may come to a 41st one, but not leave it. */
-    private boolean canMove(int way) {
+    /** Moving begins only the pages that it leaves: behind a record it may come to a 41st one, but not leave it. */
+    private boolean endsAtMostBehindThem(int way) {
         return pageAfter(way) <= MOST_PAGES;
     }
 

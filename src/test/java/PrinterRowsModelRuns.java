@@ -3,10 +3,12 @@ import java.util.Arrays;
 import java.util.List;
 import java.util.Random;
 
-/** Runs of 512 made-up calls, compared with a model that moves line by line and takes a refused call back. */
+/** Runs of 512 made-up calls each, compared with a model that moves line by line and takes a refused call back. */
 public final class PrinterRowsModelRuns {
-    private static final int RUNS = 1000;
-    private static final int CALLS = 512;
+    private static final int RUNS = 4000;
+    /** Each with a look at one thing; with the looks at the end, a run is 512 calls. */
+    private static final int STEPS = 226;
+    private static final int LAST_LOOKS = 60;
     private static final int[] CODES = {32, 48, 45, 43, 256, 257, 258, 259, 272, 260, 0, -7, 285};
 
     private final Random random;
@@ -38,18 +40,27 @@ public final class PrinterRowsModelRuns {
     }
 
     private boolean agrees(int seed) {
-        for (int call = 0; call < CALLS; call++) {
-            long want;
-            long got;
+        for (int step = 0; step < STEPS; step++) {
             int kind = random.nextInt(40);
             int a = number();
             int b = number();
             int c = number();
-            want = model.call(kind, a, b, c);
-            got = callReal(kind, a, b, c);
-            if (want != got || !sameState()) {
-                System.out.println("run " + seed + ", call " + call + ": " + last + " answered " + got
-                    + ", the model " + want + " (or the pages or tallies differ)");
+            long want = model.call(kind, a, b, c);
+            long got = callReal(kind, a, b, c);
+            if (want != got) {
+                System.out.println("run " + seed + ", step " + step + ": " + last + " answered " + got
+                    + ", the model " + want);
+                return false;
+            }
+            if (!looksSame()) {
+                System.out.println("run " + seed + ", step " + step + ": a page or a tally differs, the last call was "
+                    + last);
+                return false;
+            }
+        }
+        for (int look = 0; look < LAST_LOOKS; look++) {
+            if (!looksSame()) {
+                System.out.println("run " + seed + ": a page or a tally differs at its end");
                 return false;
             }
         }
@@ -92,26 +103,19 @@ public final class PrinterRowsModelRuns {
         }
     }
 
-    /** Looks at some places of each page; all of them would take too long. */
-    private boolean sameState() {
-        for (int what = -1; what <= 8; what++) {
-            if (real.tally(what) != model.tally(what)) {
-                return false;
-            }
+    /** Looks at one tally, or at one place: mostly of the last page, and of the line on which the printer stands. */
+    private boolean looksSame() {
+        if (random.nextInt(3) == 0) {
+            int what = random.nextInt(10) - 1;
+            return real.tally(what) == model.tally(what);
         }
-        for (int look = 0; look < 20; look++) {
-            int page = random.nextInt(42) - 1;
-            int line = look < 10 ? model.standLine : random.nextInt(lines + 2) - 1;
-            int column = random.nextInt(columns + 2) - 1;
-            int stand = look < 5 ? model.pages.size() - 1 : page;
-            if (signOrThrow(stand, line, column) != model.signAt(stand, line, column)) {
-                return false;
-            }
-        }
-        return true;
+        int page = random.nextBoolean() ? model.pages.size() - 1 : random.nextInt(model.pages.size() + 2) - 1;
+        int line = random.nextBoolean() ? model.standLine : random.nextInt(lines + 2) - 1;
+        int column = random.nextInt(Math.min(columns, 16) + 2) - 1;
+        return signOrThrow(page, line, column) == model.signAt(page, line, column);
     }
 
-    /** Thrown where the 41st page would be begun. */
+    /** Thrown where the 41st page would be begun, or a skip would come to it. */
     private static final class Full extends RuntimeException {
         private static final long serialVersionUID = 1L;
     }
@@ -183,7 +187,7 @@ public final class PrinterRowsModelRuns {
                     int was = channels[a];
                     channels[a] = b;
                     return was;
-                case "skip": return a < 1 || a > 12 ? 0 : skipTo(a);
+                case "skip": return a < 1 || a > 12 ? 0 : skipOnPages(a);
                 case "end": return over();
                 case "over": return sign(a) && sign(b) ? Math.max(a, b) : -1;
                 case "translate":
@@ -250,6 +254,14 @@ public final class PrinterRowsModelRuns {
                 print();
             }
             return pages.size();
+        }
+
+        private int skipOnPages(int c) {
+            int by = skipTo(c);
+            if (!begun && pages.size() == 40) {
+                throw new Full();
+            }
+            return by;
         }
 
         private int skipTo(int c) {

@@ -1,9 +1,5 @@
 /** One method a promise: ordinary inputs, the edges that the document names, wrong inputs. */
-public final class PrinterRowsPromises {
-    private static final int MOST_PAGES = 40;
-    private static int wrong = 0;
-    private static String promise = "";
-
+public final class PrinterRowsPromises extends Dues {
     public static void main(String[] args) {
         newObject();
         channel();
@@ -24,14 +20,11 @@ public final class PrinterRowsPromises {
         back();
         forms();
         tally();
-        System.out.println(wrong == 0 ? "every promise holds" : wrong + " answers are not as due");
-        if (wrong != 0) {
-            System.exit(1);
-        }
+        endWith("every promise holds");
     }
 
     private static void newObject() {
-        promise = "1, a new object";
+        about("promise 1, a new object");
         PrinterRows x = new PrinterRows(4, 5);
         for (int what = 0; what <= 7; what++) {
             due("tally(" + what + ")", x.tally(what), 0);
@@ -61,7 +54,7 @@ public final class PrinterRowsPromises {
     }
 
     private static void channel() {
-        promise = "2, channel";
+        about("promise 2, channel");
         PrinterRows x = new PrinterRows(6, 3);
         due("first time", x.channel(1, 0), PrinterRows.NONE);
         due("another line", x.channel(1, 5), 0);
@@ -82,7 +75,7 @@ public final class PrinterRowsPromises {
     }
 
     private static void sign() {
-        promise = "3, sign";
+        about("promise 3, sign");
         PrinterRows x = new PrinterRows(2, 132);
         int[] given = {97, 31, 0, 32, 255, 256, 256 + 97, -1, -191, -256, 33, Integer.MAX_VALUE, Integer.MIN_VALUE};
         int[] printed = {97, 32, 32, 32, 255, 32, 97, 255, 65, 32, 33, 255, 32};
@@ -105,7 +98,7 @@ public final class PrinterRowsPromises {
     }
 
     private static void lineOfTheFirstKind() {
-        promise = "4, line, first kind";
+        about("promise 4, line, first kind");
         PrinterRows x = new PrinterRows(8, 4);
         print(x, "abcdef", '+', 1);
         dueText(x, 0, 0, "abcd");
@@ -134,7 +127,7 @@ public final class PrinterRowsPromises {
     }
 
     private static void lineOfTheSecondKind() {
-        promise = "4, line, second kind";
+        about("promise 4, line, second kind");
         PrinterRows x = new PrinterRows(8, 4);
         print(x, "a", 256, 1);
         due("256 does not move", x.tally(1), 0);
@@ -155,7 +148,7 @@ public final class PrinterRowsPromises {
     }
 
     private static void lineToChannels() {
-        promise = "4, line, channels";
+        about("promise 4, line, channels");
         int[] first = {'1', '2', '3', '4', '5', '6', '7', '8', '9', 'A', 'B', 'C'};
         for (int c = 1; c <= 12; c++) {
             PrinterRows x = withChannels();
@@ -195,7 +188,7 @@ public final class PrinterRowsPromises {
     }
 
     private static void lineOfOtherCodes() {
-        promise = "4, line, other codes are as 32";
+        about("promise 4, line, other codes are as 32");
         int[] others = {0, 1, 12, 31, 33, 42, 44, 46, 47, 58, 64, 68, 97, 255, 260, 271, 272, 285, 300, -1,
             Integer.MIN_VALUE, Integer.MAX_VALUE, 256 + 32, 256 + 43, 256 + 49};
         for (int code : others) {
@@ -208,7 +201,7 @@ public final class PrinterRowsPromises {
     }
 
     private static void lineBeginsPages() {
-        promise = "4, line, pages that are begun";
+        about("promise 4, line, pages that are begun");
         PrinterRows x = new PrinterRows(1, 1);
         due("a blank page, and one", x.line(' '), 2);
         due("two blank pages, and one", x.line('-'), 5);
@@ -227,7 +220,7 @@ public final class PrinterRowsPromises {
     }
 
     private static void lineBeyondTheLastPage() {
-        promise = "4, line, beyond the 40th page";
+        about("promise 4, line, beyond the 40th page");
         int[] codes = {' ', '0', '-', '1', '2', 'C', 99};
         for (int code : codes) {
             PrinterRows x = onTheLastPage();
@@ -262,17 +255,6 @@ public final class PrinterRowsPromises {
         due("its last line", z.tally(1), 2);
     }
 
-    /** A printer of one place a page, with 40 pages begun, on the last one. */
-    private static PrinterRows onTheLastPage() {
-        PrinterRows x = new PrinterRows(1, 1);
-        for (int page = 0; page < MOST_PAGES; page++) {
-            x.sign('k');
-            x.line(page == 0 ? '+' : ' ');
-        }
-        due("pages at the last page", x.tally(0), MOST_PAGES);
-        return x;
-    }
-
     private static void dueRefused(PrinterRows x, int code) {
         x.sign('z');
         int[] before = tallies(x);
@@ -281,7 +263,7 @@ public final class PrinterRowsPromises {
     }
 
     private static void skip() {
-        promise = "5, skip";
+        about("promise 5, skip");
         PrinterRows x = new PrinterRows(6, 3);
         x.channel(1, 0);
         x.channel(2, 4);
@@ -314,18 +296,20 @@ public final class PrinterRowsPromises {
     }
 
     private static void skipBeyondTheLastPage() {
-        promise = "5, skip, beyond the 40th page";
+        about("promise 5, skip, beyond the 40th page");
         PrinterRows x = new PrinterRows(1, 1);
-        for (int i = 0; i < MOST_PAGES; i++) {
+        for (int i = 0; i < MOST_PAGES - 1; i++) {
             due("skip to none", x.skip(1), PrinterRows.NONE);
         }
-        due("40 blank pages", x.tally(0), MOST_PAGES);
+        due("39 blank pages", x.tally(0), MOST_PAGES - 1);
         int[] before = tallies(x);
-        due("it would begin the 41st, at none", x.skip(1), -6);
+        due("beyond the 40th, at none", x.skip(1), -6);
         x.channel(1, 0);
-        due("it would begin the 41st", x.skip(1), -6);
+        due("beyond the 40th", x.skip(1), -6);
         dueTallies("nothing changed", x, before);
         due("no such channel", x.skip(13), 0);
+        due("the 40th can be printed on", x.line('+'), MOST_PAGES);
+        due("and is the last", x.skip(1), -6);
         PrinterRows y = new PrinterRows(4, 1);
         y.channel(1, 3);
         y.channel(2, 1);
@@ -334,14 +318,13 @@ public final class PrinterRowsPromises {
         }
         due("on the last page", y.tally(0), MOST_PAGES - 1);
         due("on it", y.skip(1), 2);
-        due("off it, which begins it", y.skip(2), 2);
-        due("it is begun", y.tally(0), MOST_PAGES);
-        due("not off the next", y.skip(2), -6);
-        due("line", y.tally(1), 1);
+        due("off it", y.skip(2), -6);
+        due("pages", y.tally(0), MOST_PAGES - 1);
+        due("line", y.tally(1), 3);
     }
 
     private static void end() {
-        promise = "6, end";
+        about("promise 6, end");
         PrinterRows x = new PrinterRows(4, 5);
         due("no page", x.end(), 0);
         print(x, "a", ' ', 1);
@@ -367,7 +350,7 @@ public final class PrinterRowsPromises {
     }
 
     private static void at() {
-        promise = "7, at";
+        about("promise 7, at");
         PrinterRows x = new PrinterRows(3, 4);
         dueNoPlace(x, 0, 0, 0);
         print(x, "ab", ' ', 1);
@@ -396,20 +379,21 @@ public final class PrinterRowsPromises {
     }
 
     private static void over() {
-        promise = "8, over";
-        PrinterRows x = new PrinterRows(1, 1);
+        about("promise 8, over");
         for (int a = 30; a <= 257; a++) {
+            PrinterRows x = new PrinterRows(1, 1);
             for (int b = 30; b <= 257; b++) {
                 boolean signs = a >= 32 && a <= 255 && b >= 32 && b <= 255;
                 due("over(" + a + ", " + b + ")", x.over(a, b), signs ? Math.max(a, b) : PrinterRows.NONE);
             }
         }
+        PrinterRows x = new PrinterRows(1, 1);
         due("the least", x.over(Integer.MIN_VALUE, 40), PrinterRows.NONE);
         due("the greatest", x.over(40, Integer.MAX_VALUE), PrinterRows.NONE);
     }
 
     private static void translate() {
-        promise = "9, translate";
+        about("promise 9, translate");
         PrinterRows x = new PrinterRows(3, 6);
         signs(x, 'a', 1);
         due("a to b", x.translate('a', 'b'), 'a');
@@ -432,7 +416,7 @@ public final class PrinterRowsPromises {
     }
 
     private static void copies() {
-        promise = "10, copies";
+        about("promise 10, copies");
         PrinterRows x = new PrinterRows(2, 1);
         int[] none = {0, 1, -1, 40, Integer.MAX_VALUE, Integer.MIN_VALUE};
         for (int page : none) {
@@ -507,7 +491,7 @@ public final class PrinterRowsPromises {
     }
 
     private static void back() {
-        promise = "11, back";
+        about("promise 11, back");
         PrinterRows x = new PrinterRows(3, 1);
         due("none of none", x.back(0), 0);
         due("one of none", x.back(1), -2);
@@ -544,7 +528,7 @@ public final class PrinterRowsPromises {
     }
 
     private static void forms() {
-        promise = "12, forms";
+        about("promise 12, forms");
         PrinterRows x = new PrinterRows(4, 1);
         due("kind 0 at first", x.forms(0), 1);
         print(x, "a", ' ', 1);
@@ -569,7 +553,7 @@ public final class PrinterRowsPromises {
     }
 
     private static void tally() {
-        promise = "13, tally";
+        about("promise 13, tally");
         PrinterRows x = new PrinterRows(3, 4);
         x.translate('a', ' ');
         x.translate('_', 'u');
@@ -597,71 +581,5 @@ public final class PrinterRowsPromises {
         for (int what : others) {
             due("tally(" + what + ")", x.tally(what), PrinterRows.NONE);
         }
-    }
-
-    private static void print(PrinterRows x, String text, int code, int pages) {
-        for (char c : text.toCharArray()) {
-            x.sign(c);
-        }
-        due("line(" + code + ") of '" + text + "'", x.line(code), pages);
-    }
-
-    private static void signs(PrinterRows x, int c, int times) {
-        for (int i = 0; i < times; i++) {
-            x.sign(c);
-        }
-    }
-
-    private static int[] tallies(PrinterRows x) {
-        int[] all = new int[8];
-        for (int what = 0; what < all.length; what++) {
-            all[what] = x.tally(what);
-        }
-        return all;
-    }
-
-    private static void dueTallies(String call, PrinterRows x, int[] want) {
-        for (int what = 0; what < want.length; what++) {
-            due(call + ", tally(" + what + ")", x.tally(what), want[what]);
-        }
-    }
-
-    private static void dueText(PrinterRows x, int page, int line, String want) {
-        for (int column = 0; column < want.length(); column++) {
-            dueAt(x, page, line, column, want.charAt(column));
-        }
-    }
-
-    private static void dueAt(PrinterRows x, int page, int line, int column, int want) {
-        String call = "at(" + page + ", " + line + ", " + column + ")";
-        try {
-            due(call, x.at(page, line, column), want);
-        } catch (ArrayIndexOutOfBoundsException e) {
-            tell(call + " threw, due is " + want);
-        }
-    }
-
-    private static void dueNoPlace(PrinterRows x, int page, int line, int column) {
-        String call = "at(" + page + ", " + line + ", " + column + ")";
-        try {
-            int got = x.at(page, line, column);
-            tell(call + " answered " + got + ", due is ArrayIndexOutOfBoundsException");
-        } catch (ArrayIndexOutOfBoundsException e) {
-            // The machine's own exception would begin so; the class has to throw it itself.
-            if (String.valueOf(e.getMessage()).startsWith("Index ")) {
-                tell(call + " let the machine throw");
-            }
-        }
-    }
-
-    private static void due(String call, int got, int want) {
-        if (got != want) {
-            tell(call + " answered " + got + ", due is " + want);
-        }
-    }
-
-    private static void tell(String what) {
-        wrong++;
-        System.out.println("promise " + promise + ": " + what);
     }
 }
