@@ -277,7 +277,8 @@ public final class PrinterRows {
     }
 
     private int pageAfter(int way) {
-        return standPage() + (standLine + way) / lines;
+        int linesOfPage = Math.max(1, lines);
+        return standPage() + (standLine + way) / linesOfPage;
     }
 
     /** Whether the way ends on one of the 40 pages: there a record can be printed, and a skip may end only there. */

@@ -20,6 +20,7 @@ public final class PrinterRowsPromises extends Dues {
         back();
         forms();
         tally();
+        exampleOfTheReadme();
         endWith("every promise holds");
     }
 
@@ -581,5 +582,20 @@ public final class PrinterRowsPromises extends Dues {
         for (int what : others) {
             due("tally(" + what + ")", x.tally(what), PrinterRows.NONE);
         }
+    }
+
+    private static void exampleOfTheReadme() {
+        about("the example in README.md");
+        PrinterRows printer = new PrinterRows(66, 132);
+        due("channel(1, 0)", printer.channel(1, 0), PrinterRows.NONE);
+        printer.sign('H');
+        printer.sign('i');
+        due("line(' ')", printer.line(' '), 1);
+        dueAt(printer, 0, 1, 0, 'H');
+        due("skip(1)", printer.skip(1), 65);
+        due("copies(2, 0, 0)", printer.copies(2, 0, 0), 3);
+        dueAt(printer, 2, 1, 1, 'i');
+        due("back(1)", printer.back(1), 2);
+        due("tally(3)", printer.tally(3), 2);
     }
 }
